@@ -106,12 +106,12 @@ public final class AdventureWorld {
     }
 
     public int addRoom(boolean isLight) throws IllegalStateException {
-        Plan plan = story.plan;
         refuseWhilePlayed();
-        if (plan.rooms >= ROOM_LIMIT) {
+        int room = story.plan.newRoom(isLight);
+        if (room == NONE) {
             throw new IllegalStateException("there are 8 rooms");
         }
-        return plan.newRoom(isLight);
+        return room;
     }
 
     public int connect(int room, int direction, int to, int door)
@@ -139,10 +139,10 @@ public final class AdventureWorld {
             throw new IllegalArgumentException("an argument is out of range");
         }
         refuseWhilePlayed();
-        if (story.plan.things >= THING_LIMIT) {
+        int thing = story.plan.newThing(kind, noun, adjective, size);
+        if (thing == NONE) {
             throw new IllegalStateException("there are 16 things");
         }
-        int thing = story.plan.newThing(kind, noun, adjective, size);
         story.now.clear(thing);
         return thing;
     }
@@ -262,10 +262,11 @@ public final class AdventureWorld {
             throw new UnsupportedOperationException("not a thing for this daemon");
         }
         refuseWhilePlayed();
-        if (plan.daemons >= DAEMON_LIMIT) {
+        int daemon = plan.newDaemon(kind, thing, period, once);
+        if (daemon == NONE) {
             throw new IllegalStateException("there are 6 daemons");
         }
-        return plan.newDaemon(kind, thing, period, once);
+        return daemon;
     }
 
     public int begin(int room) throws IndexOutOfBoundsException, IllegalStateException {
@@ -670,8 +671,11 @@ public final class AdventureWorld {
             System.arraycopy(other.periods, 0, periods, 0, DAEMON_LIMIT);
         }
 
-        /** The caller has seen that there is room for one more; so it is for things and daemons. */
+        /** The number of a room that is added, or NONE; so it is for things and daemons. */
         int newRoom(boolean isLight) {
+            if (rooms >= ROOM_LIMIT) {
+                return NONE;
+            }
             int room = rooms;
             rooms++;
             light = with(light, room, isLight);
@@ -682,6 +686,9 @@ public final class AdventureWorld {
         }
 
         int newThing(int kind, int noun, int adjective, int size) {
+            if (things >= THING_LIMIT) {
+                return NONE;
+            }
             int thing = things;
             things++;
             kinds[thing] = kind;
@@ -695,6 +702,9 @@ public final class AdventureWorld {
         }
 
         int newDaemon(int kind, int thing, int period, boolean actsOnce) {
+            if (daemons >= DAEMON_LIMIT) {
+                return NONE;
+            }
             int daemon = daemons;
             daemons++;
             daemonKinds[daemon] = kind;

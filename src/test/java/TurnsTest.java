@@ -227,6 +227,7 @@ public final class TurnsTest {
         Check.due("a closed door", 0, () -> w.outer(coin));
         dueEvents(w, "");
         Check.due("its time goes on", 3, () -> w.daemon(0, 3));
+        Check.due("none caused", 0, () -> w.daemon(0, 4));
         Check.says(w, "open door", "done 1");
         Check.due("an open door", 1, () -> w.outer(coin));
         Check.says(w, "close door", "done 1");
@@ -258,6 +259,7 @@ public final class TurnsTest {
         dueEvents(w, "");
         Check.due("nowhere", -2, () -> w.outer(gone));
         Check.due("carried", -1, () -> w.outer(coin));
+        Check.due("none caused", 0, () -> w.daemon(0, 4));
         Check.says(w, "drop coin", "done 1");
         Check.due("moved, north first", 1, () -> w.outer(coin));
         dueEvents(w, "20" + coin);
@@ -317,6 +319,12 @@ public final class TurnsTest {
         w.begin(0);
         waits(w, 2);
         dueEvents(w, "");
+        Check.due("none caused", 0, () -> w.daemon(0, 4));
+        w.stop();
+        w.put(box, 0, 0);
+        w.begin(0);
+        waits(w, 3);
+        dueEvents(w, "300 302");
     }
 
     private static void switcher() {

@@ -704,6 +704,7 @@ final class MakingEdges extends Edges {
         refused(STATE, () -> full(NOWHERE), g -> g.put(2, INSIDE, 0));
         // Without the thing at its present place there is room for it.
         due(INSIDE, () -> full(IN_ROOM).put(1, INSIDE, 0));
+        due(INSIDE, () -> full(NOWHERE).put(1, INSIDE, 0));
         Game g = full(IN_ROOM);
         g.setCapacity(0, 10);
         due(IN_ROOM, () -> g.put(2, INSIDE, 0));

@@ -241,6 +241,7 @@ final class TurnEdges extends Edges {
             due(p, () -> g.thing(coin, 9));
             due("", g::events);
             due(3, () -> g.daemon(0, 3));
+            due(0, () -> g.daemon(0, 4));
         }
         for (int flag : new int[] {-1, OPEN, LOCKED}) {
             Game g = rooms(true, true);
@@ -381,6 +382,7 @@ final class TurnEdges extends Edges {
                 boolean gathers = place == IN_ROOM && flag == OPEN;
                 due(gathers ? INSIDE : IN_ROOM, () -> g.thing(coin, 9));
                 due(gathers ? "30" + coin : "", g::events);
+                due(gathers ? 1 : 0, () -> g.daemon(0, 4));
             }
         }
     }
@@ -401,6 +403,7 @@ final class TurnEdges extends Edges {
                 int left = burns ? fuel - 1 : fuel;
                 due(left, () -> g.thing(lamp, 6));
                 due(burns && left > 0 ? flags(LIT) : 0, () -> g.thing(lamp, 8));
+                due(-1, () -> g.daemon(0, 3));
                 due(fuel == 0 ? "" : isLit ? "500" : left > 0 ? "400" : "400 600", g::events);
                 due(fuel == 0 ? 0 : 1, () -> g.daemon(0, 4));
             }
@@ -564,12 +567,29 @@ final class TurnEdges extends Edges {
             due(STATE, g::undo);
             due(turns - kept, () -> g.count(3));
         }
-        Game inOneText = oneOfEach();
-        inOneText.begin(0);
-        inOneText.say("wait. wait. wait. wait. wait. wait. wait. wait. wait. wait. wait. down");
-        due(10, () -> inOneText.count(6));
-        due(9, inOneText::undo);
-        due(10, () -> inOneText.count(3));
+    }
+
+    @Sentence(of = "Description, Changes", says = "The world before each of the latest 10 turns is kept and can be undone;")
+    static void whatIsNoTurnCostsNone() {
+        String[] others = {"down", "look", "look. down", "x", "take coin. take coin"};
+        for (String other : others) {
+            Game g = ofTurns(11);
+            g.type("wait. wait");
+            g.foresee();
+            g.isReplayed();
+            g.outerLater(OBJECT, 30);
+            g.command();
+            g.say(other);
+            int turns = g.count(3);
+            due(10, () -> g.count(6));
+            for (int undone = 1; undone <= 10; undone++) {
+                final int n = undone;
+                due(10 - n, g::undo);
+                due(turns - n, () -> g.count(3));
+            }
+            due(STATE, g::undo);
+            due(true, g::isReplayed);
+        }
     }
 
     @Sentence(of = "Description, Changes", says = "The world before each of the latest 10 turns is kept and can be")
@@ -869,6 +889,32 @@ final class TurnEdges extends Edges {
         dueDaemons(g, want);
     }
 
+    @Sentence(of = "Promise 34: daemon", says = "- `what`: 0 for its kind, 1 for its thing, 2 for its period, 3 for its")
+    static void eventsThatEachKindCauses() {
+        Game g = rooms(true, true);
+        int box = openBox(g, IN_ROOM, 1);
+        int coin = object(g, COIN, 1, IN_ROOM, 1);
+        int ball = object(g, ROPE, 1, IN_ROOM, 0);
+        int held = object(g, KEY, 1, CARRIED, 0);
+        int lamp = lamp(g, 2, false, NOWHERE, 0);
+        g.connect(0, UP, 0, -1);
+        g.addDaemon(GATHERER, box, 1, false);
+        g.addDaemon(CLOSER, box, 2, false);
+        g.addDaemon(MOVER, ball, 1, false);
+        g.addDaemon(MOVER, held, 1, false);
+        g.addDaemon(MOVER, coin, 1, false);
+        g.addDaemon(SWITCHER, lamp, 1, false);
+        g.begin(0);
+        waits(g, 4);
+        due("301 202 404 100 202 504 202 404 604 202", g::events);
+        // The lamp has no fuel any more in turn 4; the coin was in the box before it could be moved.
+        int[] caused = {1, 1, 4, 0, 0, 3};
+        for (int daemon = 0; daemon < 6; daemon++) {
+            final int d = daemon;
+            due(caused[d], () -> g.daemon(d, 4));
+        }
+    }
+
     private static void dueDaemons(Game g, int[][] want) {
         for (int daemon = 0; daemon < want.length; daemon++) {
             for (int what = 0; what < 6; what++) {
@@ -974,7 +1020,7 @@ final class TurnEdges extends Edges {
             g.say("open door. wait. wait. wait");
             g.say("wait");
             return g;
-        }, (g, wrong) -> g.event(wrong == 1 ? 2 : wrong));
+        }, Game::event);
         refusedBeside(0, 39, INDEX, () -> {
             Game g = rooms(true);
             object(g, COIN, 1, IN_ROOM, 0);

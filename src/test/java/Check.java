@@ -1,4 +1,3 @@
-import java.util.ArrayList;
 import java.util.List;
 import java.util.concurrent.Callable;
 
@@ -39,7 +38,7 @@ final class Check {
     }
 
     /** A call that must throw and leave the world as it is. */
-    static void refused(String call, AdventureWorld world, Class<?> want, Callable<?> got) {
+    static void refused(String call, Game world, Class<?> want, Callable<?> got) {
         List<Object> before = picture(world);
         due(call, want, got);
         dueValue("the world after " + call, before, picture(world));
@@ -60,75 +59,30 @@ final class Check {
         return number;
     }
 
-    static void type(AdventureWorld world, String text) {
-        for (int i = 0; i < text.length(); i += 4) {
-            world.append(packed(text.substring(i, Math.min(i + 4, text.length()))));
-        }
+    static void type(Game world, String text) {
+        world.type(text);
     }
 
     /** Types a text of commands: how many are carried out, and the refusal, "done 2" or "done 1, 7 3 1". */
-    static String say(AdventureWorld world, String text) {
-        type(world, text);
+    static String say(Game world, String text) {
         try {
-            int done = world.command();
-            String refusal = world.refusal(0) + " " + world.refusal(1) + " " + world.refusal(2);
-            return "done " + done + (refusal.equals("0 -1 -1") ? "" : ", " + refusal);
-        } catch (IllegalArgumentException e) {
-            return "fault " + world.faultPosition();
+            return world.say(text);
         } catch (IllegalStateException e) {
             return "not played";
         }
     }
 
-    static void says(AdventureWorld world, String text, String want) {
+    static void says(Game world, String text, String want) {
         dueValue("\"" + text + "\"", want, say(world, text));
     }
 
     /** Everything of the world itself that the calls of the face tell. */
-    static List<Object> worldPicture(AdventureWorld world) {
-        List<Object> all = new ArrayList<>();
-        for (int what : new int[] {0, 1, 2, 3, 4, 7, 8, 9}) {
-            all.add(world.count(what));
-        }
-        for (int room = 0; room < world.count(0); room++) {
-            final int r = room;
-            for (int way = 0; way < 6; way++) {
-                final int w = way;
-                all.add(answer(() -> world.exit(r, w)));
-                all.add(answer(() -> world.door(r, w)));
-            }
-            all.add(world.isLit(r));
-            all.add(world.worth(r));
-        }
-        for (int thing = 0; thing < world.count(1); thing++) {
-            final int t = thing;
-            for (int what = 0; what < 12; what++) {
-                all.add(world.thing(t, what));
-            }
-            all.add(world.outer(t));
-            all.add(answer(() -> world.isVisible(t)));
-            all.add(answer(() -> world.isReachable(t)));
-        }
-        for (int daemon = 0; daemon < world.count(2); daemon++) {
-            for (int what = 0; what < 6; what++) {
-                all.add(world.daemon(daemon, what));
-            }
-        }
-        for (int event = 0; event < world.count(8); event++) {
-            all.add(world.event(event));
-        }
-        return all;
+    static List<Object> worldPicture(Game world) {
+        return world.twin().world();
     }
 
     /** The world, and what does not belong to it. */
-    static List<Object> picture(AdventureWorld world) {
-        List<Object> all = worldPicture(world);
-        all.add(world.count(5));
-        all.add(world.count(6));
-        all.add(world.faultPosition());
-        for (int what = 0; what < 3; what++) {
-            all.add(world.refusal(what));
-        }
-        return all;
+    static List<Object> picture(Game world) {
+        return world.twin().picture();
     }
 }

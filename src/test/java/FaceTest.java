@@ -1,6 +1,7 @@
 import java.lang.reflect.Field;
 import java.lang.reflect.Method;
 import java.lang.reflect.Modifier;
+import java.nio.file.DirectoryStream;
 import java.nio.file.Files;
 import java.nio.file.Path;
 import java.util.ArrayList;
@@ -21,6 +22,7 @@ public final class FaceTest {
         face();
         members();
         source();
+        testsCountTheirCalls();
         Check.end();
     }
 
@@ -125,6 +127,18 @@ public final class FaceTest {
             Check.dueValue("no " + f, false, m.find());
         }
         methodLengths(code);
+    }
+
+    /** An object is promised for 512 calls: Game refuses the 513th one, and few tests do without a Game. */
+    private static void testsCountTheirCalls() throws Exception {
+        List<String> own = List.of("Game.java", "RandomRunsTest.java", "ReadmeTest.java", "FaceTest.java");
+        try (DirectoryStream<Path> tests = Files.newDirectoryStream(Path.of("src/test/java"), "*.java")) {
+            for (Path test : tests) {
+                boolean makesWorlds = Files.readString(test).contains("new AdventureWorld(");
+                String name = test.getFileName().toString();
+                Check.dueValue(name + " counts its calls", true, own.contains(name) || !makesWorlds);
+            }
+        }
     }
 
     private static void methodLengths(String code) {

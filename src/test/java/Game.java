@@ -1,15 +1,30 @@
+import java.lang.reflect.InvocationTargetException;
+import java.lang.reflect.Method;
 import java.util.ArrayList;
 import java.util.Arrays;
+import java.util.HashMap;
 import java.util.List;
+import java.util.Map;
 
 /** A world whose calls are told and counted: a test uses no object for more calls than the document promises. */
 final class Game {
     static final int CALLS = 512;
 
+    private static final Map<String, Method> METHODS = methods();
+
     private static String latestCall = "";
 
     private final AdventureWorld world = new AdventureWorld();
-    private int calls;
+    private final List<String> names = new ArrayList<>();
+    private final List<Object[]> rows = new ArrayList<>();
+
+    private static Map<String, Method> methods() {
+        Map<String, Method> all = new HashMap<>();
+        for (Method m : AdventureWorld.class.getMethods()) {
+            all.put(m.getName(), m);
+        }
+        return all;
+    }
 
     /** The call that was made last, of any game. */
     static String latestCall() {
@@ -17,17 +32,43 @@ final class Game {
     }
 
     int calls() {
-        return calls;
+        return names.size();
     }
 
     private AdventureWorld call(String name, Object... arguments) {
-        calls++;
-        if (calls > CALLS) {
-            throw new AssertionError("a test uses an object for more than 512 calls");
-        }
+        keep(name, arguments);
         String row = Arrays.toString(arguments);
         latestCall = name + "(" + row.substring(1, row.length() - 1) + ")";
         return world;
+    }
+
+    private void keep(String name, Object[] arguments) {
+        if (calls() >= CALLS) {
+            throw new AssertionError("a test uses an object for more than 512 calls");
+        }
+        names.add(name);
+        rows.add(arguments);
+    }
+
+    /** A new world in which the same calls were made: a picture takes hundreds of calls, and is asked of a twin. */
+    Game twin() {
+        Game twin = new Game();
+        for (int i = 0; i < calls(); i++) {
+            twin.repeat(names.get(i), rows.get(i));
+        }
+        return twin;
+    }
+
+    private void repeat(String name, Object[] arguments) {
+        keep(name, arguments);
+        try {
+            METHODS.get(name).invoke(world, arguments);
+        } catch (InvocationTargetException e) {
+            // A call that was refused is refused here, too.
+            return;
+        } catch (IllegalAccessException e) {
+            throw new AssertionError(e);
+        }
     }
 
     int addRoom(boolean isLight) {
@@ -253,7 +294,7 @@ final class Game {
         }
         for (int thing = 0; thing < things; thing++) {
             final int t = thing;
-            for (int what = 0; what < 11; what++) {
+            for (int what = 0; what < 12; what++) {
                 all.add(thing(t, what));
             }
             all.add(Check.answer(() -> isVisible(t)));

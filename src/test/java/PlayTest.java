@@ -9,8 +9,8 @@ public final class PlayTest {
         Check.end();
     }
 
-    private static AdventureWorld world() {
-        AdventureWorld w = new AdventureWorld();
+    private static Game world() {
+        Game w = new Game();
         w.addRoom(true);
         w.addRoom(false);
         w.connect(0, 0, 1, -1);
@@ -27,7 +27,7 @@ public final class PlayTest {
     }
 
     private static void begin() {
-        AdventureWorld w = world();
+        Game w = world();
         for (int room : new int[] {-1, 2, Integer.MIN_VALUE, Integer.MAX_VALUE}) {
             Check.refused("begin in " + room, w, Check.INDEX, () -> w.begin(room));
         }
@@ -55,7 +55,7 @@ public final class PlayTest {
     }
 
     private static void stop() {
-        AdventureWorld w = world();
+        Game w = world();
         Check.refused("stop", w, Check.STATE, w::stop);
         w.setFlag(0, 1, true);
         List<Object> before = Check.worldPicture(w);
@@ -74,7 +74,7 @@ public final class PlayTest {
     }
 
     private static void whatStays() {
-        AdventureWorld w = world();
+        Game w = world();
         Check.type(w, "take ");
         Check.due("append while not played", 5, () -> w.count(5));
         w.begin(0);

@@ -23,8 +23,8 @@ public final class QueriesTest {
         Check.end();
     }
 
-    private static AdventureWorld rooms(boolean... light) {
-        AdventureWorld w = new AdventureWorld();
+    private static Game rooms(boolean... light) {
+        Game w = new Game();
         for (boolean isLight : light) {
             w.addRoom(isLight);
         }
@@ -32,7 +32,7 @@ public final class QueriesTest {
     }
 
     /** Adds a thing that is called coin, box, bell, lamp or door, by its kind. */
-    private static int add(AdventureWorld w, int kind, int size, int place, int target) {
+    private static int add(Game w, int kind, int size, int place, int target) {
         int thing = w.addThing(kind, new int[] {4, 0, 7, 1, 3}[kind], 0, size);
         if (kind == 1 || kind == 2) {
             w.setCapacity(thing, 30);
@@ -43,7 +43,7 @@ public final class QueriesTest {
         return thing;
     }
 
-    private static int litLamp(AdventureWorld w, int place, int target) {
+    private static int litLamp(Game w, int place, int target) {
         int lamp = add(w, 3, 1, place, target);
         w.setFuel(lamp, 9);
         w.setFlag(lamp, 4, true);
@@ -51,7 +51,7 @@ public final class QueriesTest {
     }
 
     private static void thing() {
-        AdventureWorld w = rooms(true, true);
+        Game w = rooms(true, true);
         Check.refused("no thing", w, Check.INDEX, () -> w.thing(0, 12));
         int box = w.addThing(1, 6, 3, 9);
         w.setCapacity(box, 17);
@@ -79,7 +79,7 @@ public final class QueriesTest {
     }
 
     private static void exitAndDoor() {
-        AdventureWorld w = rooms(true, true);
+        Game w = rooms(true, true);
         int door = add(w, 4, 1, 4, 0);
         w.connect(0, 0, 1, -1);
         w.connect(0, 5, 0, door);
@@ -108,7 +108,7 @@ public final class QueriesTest {
     }
 
     private static void isLit() {
-        AdventureWorld w = rooms(true, false, false);
+        Game w = rooms(true, false, false);
         w.connect(0, 0, 1, -1);
         int lamp = litLamp(w, 3, 0);
         Check.due("light", true, () -> w.isLit(0));
@@ -136,7 +136,7 @@ public final class QueriesTest {
     }
 
     private static void isLitThroughOthers() {
-        AdventureWorld w = rooms(false, false);
+        Game w = rooms(false, false);
         int inner = w.addThing(2, 0, 0, 2);
         int lamp = litLamp(w, 4, 0);
         int middle = add(w, 1, 3, 4, 0);
@@ -162,18 +162,18 @@ public final class QueriesTest {
         Check.due("no more there", false, () -> w.isLit(1));
     }
 
-    private static void set(AdventureWorld w, int container, int flag) {
+    private static void set(Game w, int container, int flag) {
         w.setFlag(container, 1, flag == 1);
         w.setFlag(container, 3, flag == 3);
     }
 
-    private static void dueSight(AdventureWorld w, int thing, boolean isVisible, boolean isReachable) {
+    private static void dueSight(Game w, int thing, boolean isVisible, boolean isReachable) {
         Check.due("isVisible " + thing, isVisible, () -> w.isVisible(thing));
         Check.due("isReachable " + thing, isReachable, () -> w.isReachable(thing));
     }
 
     private static void isVisible() {
-        AdventureWorld w = rooms(true, true);
+        Game w = rooms(true, true);
         int closed = add(w, 1, 1, 0, 0);
         int inClosed = add(w, 0, 1, 1, closed);
         int tray = add(w, 2, 1, 3, 0);
@@ -212,7 +212,7 @@ public final class QueriesTest {
     }
 
     private static void isVisibleInTheDark() {
-        AdventureWorld w = rooms(false);
+        Game w = rooms(false);
         int box = add(w, 1, 1, 3, 0);
         int inBox = add(w, 2, 1, 1, box);
         int onThat = add(w, 0, 1, 2, inBox);
@@ -240,7 +240,7 @@ public final class QueriesTest {
     }
 
     private static void isReachable() {
-        AdventureWorld w = rooms(true);
+        Game w = rooms(true);
         int a = add(w, 1, 1, 0, 0);
         int tray = add(w, 2, 1, 1, a);
         int b = add(w, 1, 1, 2, tray);
@@ -261,7 +261,7 @@ public final class QueriesTest {
     }
 
     private static void content() {
-        AdventureWorld w = rooms(true, true);
+        Game w = rooms(true, true);
         int box = add(w, 1, 1, 0, 1);
         int tray = add(w, 2, 1, 0, 0);
         int first = add(w, 0, 1, 1, box);
@@ -296,7 +296,7 @@ public final class QueriesTest {
         }
     }
 
-    private static void dueContent(AdventureWorld w, int place, int target, int... things) {
+    private static void dueContent(Game w, int place, int target, int... things) {
         String call = "content " + place + " " + target;
         Check.due(call, things.length, () -> w.content(place, target, -1));
         for (int i = 0; i < things.length; i++) {
@@ -309,7 +309,7 @@ public final class QueriesTest {
     }
 
     private static void outer() {
-        AdventureWorld w = rooms(true, true);
+        Game w = rooms(true, true);
         int box = add(w, 1, 1, 0, 1);
         int tray = add(w, 2, 1, 1, box);
         int coin = add(w, 0, 1, 2, tray);
@@ -331,7 +331,7 @@ public final class QueriesTest {
     }
 
     private static void distance() {
-        AdventureWorld w = rooms(true, true, true, true, true, true, true, true);
+        Game w = rooms(true, true, true, true, true, true, true, true);
         int door = add(w, 4, 1, 4, 0);
         for (int room = 0; room < 7; room++) {
             w.connect(room, room % 6, room + 1, -1);
@@ -358,7 +358,7 @@ public final class QueriesTest {
     }
 
     private static void worth() {
-        AdventureWorld w = rooms(true, true);
+        Game w = rooms(true, true);
         int box = add(w, 1, 1, 0, 1);
         int inBox = add(w, 0, 1, 1, box);
         int held = add(w, 2, 1, 3, 0);
@@ -382,13 +382,13 @@ public final class QueriesTest {
         for (int wrong : new int[] {MIN, MAX, -2, 2}) {
             Check.refused("worth of " + wrong, w, Check.INDEX, () -> w.worth(wrong));
         }
-        AdventureWorld none = new AdventureWorld();
+        Game none = new Game();
         Check.due("no rooms, nothing carried", 0, () -> none.worth(-1));
         Check.refused("no rooms", none, Check.INDEX, () -> none.worth(0));
     }
 
     private static void litShare() {
-        AdventureWorld w = new AdventureWorld();
+        Game w = new Game();
         Check.refused("litShare without rooms", w, Check.ARITHMETIC, w::litShare);
         w.addRoom(false);
         Check.due("none of one", 0.0f, w::litShare);
@@ -409,7 +409,7 @@ public final class QueriesTest {
     }
 
     private static void meanSize() {
-        AdventureWorld w = rooms(true);
+        Game w = rooms(true);
         Check.refused("nothing at all", w, Check.ARITHMETIC, w::meanSize);
         int box = add(w, 1, 5, 0, 0);
         int coin = add(w, 0, 1, 1, box);
@@ -429,7 +429,7 @@ public final class QueriesTest {
     }
 
     private static void letter() {
-        AdventureWorld w = new AdventureWorld();
+        Game w = new Game();
         String[] nouns = {"box", "lamp", "key", "door", "coin", "rope", "book", "bell"};
         for (int noun = 0; noun < 8; noun++) {
             final int n = noun;
@@ -447,7 +447,7 @@ public final class QueriesTest {
     }
 
     private static void count() {
-        AdventureWorld w = rooms(true, true, true);
+        Game w = rooms(true, true, true);
         int box = add(w, 1, 2, 3, 0);
         add(w, 0, 7, 1, box);
         w.addDaemon(0, box, 1, false);
@@ -470,7 +470,7 @@ public final class QueriesTest {
         }
     }
 
-    private static void dueCounts(AdventureWorld w, int... due) {
+    private static void dueCounts(Game w, int... due) {
         for (int what = 0; what < 10; what++) {
             final int n = what;
             Check.due("count " + n, due[n], () -> w.count(n));

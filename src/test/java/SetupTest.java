@@ -21,8 +21,8 @@ public final class SetupTest {
     }
 
     /** One thing of each kind, with its kind for a number: 0 object, 1 container, 2 supporter, 3 lamp, 4 door. */
-    private static AdventureWorld oneOfEach() {
-        AdventureWorld w = new AdventureWorld();
+    private static Game oneOfEach() {
+        Game w = new Game();
         w.addRoom(true);
         for (int kind = 0; kind < 5; kind++) {
             w.addThing(kind, kind, 0, kind + 1);
@@ -30,14 +30,14 @@ public final class SetupTest {
         return w;
     }
 
-    private static AdventureWorld played() {
-        AdventureWorld w = oneOfEach();
+    private static Game played() {
+        Game w = oneOfEach();
         w.begin(0);
         return w;
     }
 
     private static void newObject() {
-        AdventureWorld w = new AdventureWorld();
+        Game w = new Game();
         int[] counts = {0, 0, 0, -1, -1, 0, 0, 0, 0, 0};
         for (int what = 0; what < counts.length; what++) {
             final int n = what;
@@ -57,7 +57,7 @@ public final class SetupTest {
     }
 
     private static void addRoom() {
-        AdventureWorld w = new AdventureWorld();
+        Game w = new Game();
         for (int room = 0; room < 8; room++) {
             final boolean isLight = room % 2 == 0;
             Check.due("addRoom", room, () -> w.addRoom(isLight));
@@ -71,12 +71,12 @@ public final class SetupTest {
                 Check.due("exit of a new room", Check.MISSING, () -> w.exit(r, d));
             }
         }
-        AdventureWorld p = played();
+        Game p = played();
         Check.refused("addRoom while played", p, Check.STATE, () -> p.addRoom(true));
     }
 
     private static void connect() {
-        AdventureWorld w = oneOfEach();
+        Game w = oneOfEach();
         w.addRoom(false);
         Check.due("connect", -1, () -> w.connect(0, 5, 1, -1));
         Check.due("connect anew", 1, () -> w.connect(0, 5, 0, 4));
@@ -114,7 +114,7 @@ public final class SetupTest {
     }
 
     private static void addThing() {
-        AdventureWorld w = new AdventureWorld();
+        Game w = new Game();
         int[][] wrong = {{-1, 0, 0, 1}, {5, 0, 0, 1}, {MIN, 0, 0, 1}, {0, -1, 0, 1}, {0, 8, 0, 1}, {0, MAX, 0, 1},
             {0, 0, -1, 1}, {0, 0, 4, 1}, {0, 0, MIN, 1}, {0, 0, 0, 0}, {0, 0, 0, 10}, {0, 0, 0, -1}, {0, 0, 0, MAX}};
         for (int[] a : wrong) {
@@ -131,13 +131,13 @@ public final class SetupTest {
         }
         Check.refused("addThing, the seventeenth", w, Check.STATE, () -> w.addThing(0, 0, 0, 1));
         Check.refused("addThing, one too many and wrong", w, Check.ARGUMENT, () -> w.addThing(0, 0, 0, 0));
-        AdventureWorld p = played();
+        Game p = played();
         Check.refused("addThing while played", p, Check.STATE, () -> p.addThing(0, 0, 0, 1));
         Check.refused("addThing while played, wrong", p, Check.ARGUMENT, () -> p.addThing(5, 0, 0, 1));
     }
 
     private static void setCapacity() {
-        AdventureWorld w = oneOfEach();
+        Game w = oneOfEach();
         Check.due("setCapacity", 0, () -> w.setCapacity(1, 30));
         Check.due("setCapacity", 30, () -> w.setCapacity(1, 1));
         Check.due("setCapacity", 0, () -> w.setCapacity(2, 10));
@@ -168,7 +168,7 @@ public final class SetupTest {
             {true, false, false, false, false}, {false, false, false, false, true}, {false, true, true, false, false}};
         for (int thing = 0; thing < 5; thing++) {
             for (int flag = 0; flag < 5; flag++) {
-                AdventureWorld w = oneOfEach();
+                Game w = oneOfEach();
                 w.setFuel(3, 1);
                 final int t = thing;
                 final int f = flag;
@@ -186,7 +186,7 @@ public final class SetupTest {
                 }
             }
         }
-        AdventureWorld w = oneOfEach();
+        Game w = oneOfEach();
         for (int thing : new int[] {1, 4}) {
             w.setFlag(thing, 1, true);
             Check.refused("open and locked", w, Check.STATE, () -> w.setFlag(thing, 2, true));
@@ -214,7 +214,7 @@ public final class SetupTest {
     }
 
     private static void setKey() {
-        AdventureWorld w = oneOfEach();
+        Game w = oneOfEach();
         Check.due("setKey", -1, () -> w.setKey(1, 0));
         Check.due("setKey to itself", 0, () -> w.setKey(1, 1));
         Check.due("setKey to a door", 1, () -> w.setKey(1, 4));
@@ -237,7 +237,7 @@ public final class SetupTest {
     }
 
     private static void setFuel() {
-        AdventureWorld w = oneOfEach();
+        Game w = oneOfEach();
         Check.due("setFuel", 0, () -> w.setFuel(3, 99));
         Check.due("setFuel", 99, () -> w.setFuel(3, 0));
         Check.due("setFuel", 0, () -> w.setFuel(3, 7));
@@ -260,7 +260,7 @@ public final class SetupTest {
     }
 
     private static void setWorth() {
-        AdventureWorld w = oneOfEach();
+        Game w = oneOfEach();
         for (int thing = 0; thing < 5; thing++) {
             final int t = thing;
             Check.due("setWorth", 0, () -> w.setWorth(t, 9));
@@ -279,7 +279,7 @@ public final class SetupTest {
     }
 
     private static void put() {
-        AdventureWorld w = oneOfEach();
+        Game w = oneOfEach();
         w.setCapacity(1, 30);
         w.setCapacity(2, 30);
         Check.due("put into a room", 4, () -> w.put(0, 0, 0));
@@ -320,7 +320,7 @@ public final class SetupTest {
     }
 
     private static void putIntoOthers() {
-        AdventureWorld w = oneOfEach();
+        Game w = oneOfEach();
         w.setCapacity(1, 5);
         w.setCapacity(2, 6);
         Check.refused("put into itself", w, Check.STATE, () -> w.put(1, 1, 1));
@@ -341,7 +341,7 @@ public final class SetupTest {
     }
 
     private static void putLoad() {
-        AdventureWorld w = new AdventureWorld();
+        Game w = new Game();
         w.addRoom(true);
         int bag = w.addThing(1, 0, 0, 3);
         int nine = w.addThing(0, 1, 0, 9);
@@ -372,7 +372,7 @@ public final class SetupTest {
             {false, true, false, false, false}, {false, false, false, true, false}};
         for (int kind = 0; kind < 4; kind++) {
             for (int thing = 0; thing < 5; thing++) {
-                AdventureWorld w = oneOfEach();
+                Game w = oneOfEach();
                 final int k = kind;
                 final int t = thing;
                 if (!can[k][t]) {
@@ -387,7 +387,7 @@ public final class SetupTest {
                 }
             }
         }
-        AdventureWorld w = oneOfEach();
+        Game w = oneOfEach();
         for (int thing : new int[] {-1, 5, MIN, MAX}) {
             Check.refused("addDaemon for " + thing, w, Check.INDEX, () -> w.addDaemon(4, thing, 0, true));
         }
@@ -403,7 +403,7 @@ public final class SetupTest {
         }
         Check.refused("addDaemon, the seventh", w, Check.STATE, () -> w.addDaemon(1, 0, 1, false));
         Check.refused("addDaemon, the seventh, wrong", w, Check.KIND, () -> w.addDaemon(0, 0, 1, false));
-        AdventureWorld p = played();
+        Game p = played();
         Check.refused("addDaemon while played", p, Check.STATE, () -> p.addDaemon(1, 0, 1, false));
     }
 }

@@ -13,8 +13,8 @@ public final class SnapshotTest {
         Check.end();
     }
 
-    private static AdventureWorld world() {
-        AdventureWorld w = new AdventureWorld();
+    private static Game world() {
+        Game w = new Game();
         w.addRoom(true);
         w.addRoom(false);
         int box = w.addThing(1, 0, 1, 3);
@@ -36,11 +36,11 @@ public final class SnapshotTest {
     }
 
     private static void nothingSaved() {
-        AdventureWorld w = world();
+        Game w = world();
         Check.refused("restore", w, Check.STATE, w::restore);
         w.begin(0);
         Check.refused("restore while played", w, Check.STATE, w::restore);
-        AdventureWorld empty = new AdventureWorld();
+        Game empty = new Game();
         Check.due("save nothing", 0, empty::save);
         empty.addRoom(true);
         empty.addThing(0, 0, 0, 1);
@@ -50,7 +50,7 @@ public final class SnapshotTest {
     }
 
     private static void beforePlay() {
-        AdventureWorld w = world();
+        Game w = world();
         List<Object> before = Check.worldPicture(w);
         Check.due("save", 3, w::save);
         Check.dueValue("save changes nothing", before, Check.worldPicture(w));
@@ -87,7 +87,7 @@ public final class SnapshotTest {
     }
 
     private static void whilePlayed() {
-        AdventureWorld w = world();
+        Game w = world();
         w.begin(0);
         Check.says(w, "light lamp. go north. wait", "done 3");
         List<Object> before = Check.worldPicture(w);
@@ -116,7 +116,7 @@ public final class SnapshotTest {
     }
 
     private static void whatStays() {
-        AdventureWorld w = world();
+        Game w = world();
         w.begin(0);
         Check.says(w, "wait. up", "done 1, 9 -1 1");
         Check.says(w, "wax", "fault 2");
@@ -138,7 +138,7 @@ public final class SnapshotTest {
     }
 
     private static void again() {
-        AdventureWorld w = world();
+        Game w = world();
         w.save();
         w.begin(1);
         Check.due("in place of the earlier one", 3, w::save);
@@ -156,7 +156,7 @@ public final class SnapshotTest {
     }
 
     private static void whatStopBringsBack() {
-        AdventureWorld w = world();
+        Game w = world();
         List<Object> before = Check.worldPicture(w);
         w.begin(0);
         Check.says(w, "drop lamp. wait", "done 2");
@@ -174,7 +174,7 @@ public final class SnapshotTest {
     }
 
     private static void withTurns() {
-        AdventureWorld w = world();
+        Game w = world();
         w.begin(0);
         for (int i = 0; i < 4; i++) {
             Check.says(w, "wait. light lamp. quench lamp. look. wait", "done 5");

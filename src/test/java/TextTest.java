@@ -18,14 +18,14 @@ public final class TextTest {
         Check.end();
     }
 
-    private static AdventureWorld played() {
-        AdventureWorld w = new AdventureWorld();
+    private static Game played() {
+        Game w = new Game();
         w.begin(w.addRoom(true));
         return w;
     }
 
     private static void append() {
-        AdventureWorld w = new AdventureWorld();
+        Game w = new Game();
         Check.due("four characters", 4, () -> w.append(Check.packed("look")));
         Check.due("zeros are left out", 5, () -> w.append('a'));
         Check.due("zeros are left out", 6, () -> w.append('a' << 24));
@@ -43,7 +43,7 @@ public final class TextTest {
         for (int wrong : new int[] {0, -1, Integer.MIN_VALUE, Integer.MAX_VALUE}) {
             Check.refused("append " + wrong, w, Check.ARGUMENT, () -> w.append(wrong));
         }
-        AdventureWorld p = played();
+        Game p = played();
         p.append('w' << 24);
         p.append('a' << 8);
         p.append('i' << 16 | 't');
@@ -51,7 +51,7 @@ public final class TextTest {
     }
 
     private static void appendTooMuch() {
-        AdventureWorld w = played();
+        Game w = played();
         for (int i = 1; i < 20; i++) {
             final int n = i;
             Check.due("append", 4 * n, () -> w.append(Check.packed("up. ")));
@@ -68,7 +68,7 @@ public final class TextTest {
 
     /** Texts without a fault, in a world where nothing is there: how each one ends. */
     private static void goodTexts() {
-        AdventureWorld w = played();
+        Game w = played();
         Check.says(w, "look", "done 1");
         Check.says(w, "wait", "done 1");
         for (String way : WAYS) {
@@ -79,14 +79,7 @@ public final class TextTest {
         Check.says(w, "drop all", "done 0, 5 -1 0");
         for (String adjective : ADJECTIVES) {
             for (String noun : NOUNS) {
-                String phrase = adjective + noun;
-                for (String verb : new String[] {"take", "drop", "open", "close", "light", "quench"}) {
-                    Check.says(w, verb + " " + phrase, "done 0, 1 -1 0");
-                }
-                Check.says(w, "put " + phrase + " in lamp", "done 0, 1 -1 0");
-                Check.says(w, "put lamp on " + phrase, "done 0, 1 -1 0");
-                Check.says(w, "lock key with " + phrase, "done 0, 1 -1 0");
-                Check.says(w, "unlock " + phrase + " with box", "done 0, 1 -1 0");
+                goodTextsWith(adjective + noun);
             }
         }
         Check.says(w, "look. wait. look. go up. wait", "done 3, 9 -1 3");
@@ -97,8 +90,19 @@ public final class TextTest {
         Check.says(w, ups.toString(), "done 0, 9 -1 0");
     }
 
+    private static void goodTextsWith(String phrase) {
+        Game w = played();
+        for (String verb : new String[] {"take", "drop", "open", "close", "light", "quench"}) {
+            Check.says(w, verb + " " + phrase, "done 0, 1 -1 0");
+        }
+        Check.says(w, "put " + phrase + " in lamp", "done 0, 1 -1 0");
+        Check.says(w, "put lamp on " + phrase, "done 0, 1 -1 0");
+        Check.says(w, "lock key with " + phrase, "done 0, 1 -1 0");
+        Check.says(w, "unlock " + phrase + " with box", "done 0, 1 -1 0");
+    }
+
     private static void faults() {
-        AdventureWorld w = played();
+        Game w = played();
         Object[][] faults = {{"x", 0}, {" ", 0}, {" look", 0}, {"Look", 0}, {"lOok", 1}, {"loom", 3}, {"lo", 2},
             {"look ", 4}, {"look.", 5}, {"look. ", 6}, {"look.  wait", 6}, {"look.wait", 5}, {"look wait", 4},
             {"look..", 5}, {"lookx", 4}, {"waiting", 4}, {"go", 2}, {"go ", 3}, {"go look", 3}, {"go  up", 3},
@@ -132,9 +136,9 @@ public final class TextTest {
     private static void everyCut() {
         String[] texts = {"go north. take all. drop red box", "put old lamp on big book. look. wait",
             "unlock door with key. quench bell", "lock rope with coin. close key. light lamp", "put box in red coin"};
-        AdventureWorld w = played();
         for (String text : texts) {
             for (int cut = 0; cut < text.length(); cut++) {
+                Game w = played();
                 String start = text.substring(0, cut);
                 boolean isWhole = cut > 1 && (text.startsWith(". ", cut) || cut == text.length());
                 if (!isWhole) {
@@ -148,7 +152,7 @@ public final class TextTest {
     }
 
     private static void emptied() {
-        AdventureWorld w = new AdventureWorld();
+        Game w = new Game();
         w.addRoom(true);
         Check.type(w, "look. x");
         Check.refused("command while not played", w, Check.STATE, w::command);
@@ -170,7 +174,7 @@ public final class TextTest {
     }
 
     private static void foresee() {
-        AdventureWorld w = new AdventureWorld();
+        Game w = new Game();
         w.addRoom(true);
         int box = w.addThing(1, 0, 0, 1);
         int lamp = w.addThing(3, 1, 0, 1);
@@ -196,17 +200,17 @@ public final class TextTest {
         Check.due("the fault position stays", -1, w::faultPosition);
         w.stop();
         Check.refused("foresee while not played", w, Check.STATE, w::foresee);
-        AdventureWorld empty = played();
+        Game empty = played();
         Check.refused("foresee nothing", empty, Check.ARGUMENT, empty::foresee);
     }
 
-    private static int match(AdventureWorld w, String phrase) {
+    private static int match(Game w, String phrase) {
         Check.type(w, phrase);
         return w.matching();
     }
 
     private static void matching() {
-        AdventureWorld w = new AdventureWorld();
+        Game w = new Game();
         w.addRoom(true);
         w.addRoom(false);
         w.connect(0, 0, 1, -1);
@@ -241,7 +245,7 @@ public final class TextTest {
     }
 
     private static void matchingFaults() {
-        AdventureWorld w = played();
+        Game w = played();
         Object[][] faults = {{"", 0}, {"all", 0}, {"look", 1}, {"red", 3}, {"red ", 4}, {"red all", 4}, {"box ", 3},
             {"boxes", 3}, {"box. look", 3}, {"red old box", 4}, {"bo", 2}, {"bob", 2}, {"lamp in box", 4}, {" box", 0},
             {"lo", 1}, {"do", 2}, {"x", 0}};
@@ -254,7 +258,7 @@ public final class TextTest {
     }
 
     private static void faultPosition() {
-        AdventureWorld w = new AdventureWorld();
+        Game w = new Game();
         w.addRoom(true);
         Check.type(w, "loox");
         Check.due("command while not played", Check.STATE, w::command);

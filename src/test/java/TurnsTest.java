@@ -31,22 +31,22 @@ public final class TurnsTest {
         Check.end();
     }
 
-    private static AdventureWorld rooms(int rooms) {
-        AdventureWorld w = new AdventureWorld();
+    private static Game rooms(int rooms) {
+        Game w = new Game();
         for (int room = 0; room < rooms; room++) {
             w.addRoom(true);
         }
         return w;
     }
 
-    private static int lamp(AdventureWorld w, int adjective, int fuel, boolean isLit) {
+    private static int lamp(Game w, int adjective, int fuel, boolean isLit) {
         int lamp = w.addThing(3, 1, adjective, 1);
         w.setFuel(lamp, fuel);
         w.setFlag(lamp, 4, isLit);
         return lamp;
     }
 
-    private static int box(AdventureWorld w, int capacity, boolean isOpen, int room) {
+    private static int box(Game w, int capacity, boolean isOpen, int room) {
         int box = w.addThing(1, 0, 0, 1);
         w.setCapacity(box, capacity);
         w.setFlag(box, 1, isOpen);
@@ -54,13 +54,13 @@ public final class TurnsTest {
         return box;
     }
 
-    private static int coin(AdventureWorld w, int size, int room) {
+    private static int coin(Game w, int size, int room) {
         int coin = w.addThing(0, 4, 0, size);
         w.put(coin, 0, room);
         return coin;
     }
 
-    private static String events(AdventureWorld w) {
+    private static String events(Game w) {
         StringBuilder all = new StringBuilder();
         for (int i = 0; i < w.count(8); i++) {
             all.append(i == 0 ? "" : " ").append(w.event(i));
@@ -68,11 +68,11 @@ public final class TurnsTest {
         return all.toString();
     }
 
-    private static void dueEvents(AdventureWorld w, String want) {
+    private static void dueEvents(Game w, String want) {
         Check.dueValue("events", want, events(w));
     }
 
-    private static void waits(AdventureWorld w, int turns) {
+    private static void waits(Game w, int turns) {
         for (int i = 0; i < turns; i++) {
             Check.type(w, "wait");
             Check.due("wait", 1, w::command);
@@ -80,7 +80,7 @@ public final class TurnsTest {
     }
 
     private static void lamps() {
-        AdventureWorld w = rooms(1);
+        Game w = rooms(1);
         int two = lamp(w, 1, 2, true);
         int dark = lamp(w, 2, 3, false);
         int one = lamp(w, 3, 1, true);
@@ -101,7 +101,7 @@ public final class TurnsTest {
         dueEvents(w, "602 600 603");
         Check.says(w, "light lamp", "done 0, 11 3 0");
         Check.due("refused is no turn", 2, () -> w.count(3));
-        AdventureWorld quenched = rooms(1);
+        Game quenched = rooms(1);
         int last = lamp(quenched, 0, 1, true);
         quenched.put(last, 3, 0);
         quenched.begin(0);
@@ -111,7 +111,7 @@ public final class TurnsTest {
     }
 
     private static void daemonArguments() {
-        AdventureWorld w = rooms(1);
+        Game w = rooms(1);
         Check.refused("no daemon", w, Check.INDEX, () -> w.daemon(0, 6));
         int box = box(w, 0, false, 0);
         w.addDaemon(0, box, 7, true);
@@ -134,7 +134,7 @@ public final class TurnsTest {
     }
 
     private static void eventArguments() {
-        AdventureWorld w = rooms(1);
+        Game w = rooms(1);
         int box = box(w, 0, true, 0);
         w.addDaemon(0, box, 1, true);
         Check.refused("no event", w, Check.INDEX, () -> w.event(0));
@@ -150,7 +150,7 @@ public final class TurnsTest {
     }
 
     private static void closer() {
-        AdventureWorld w = rooms(2);
+        Game w = rooms(2);
         int door = w.addThing(4, 3, 0, 1);
         int box = box(w, 0, true, 1);
         w.connect(0, NORTH, 1, door);
@@ -177,7 +177,7 @@ public final class TurnsTest {
     }
 
     private static void mover() {
-        AdventureWorld w = rooms(3);
+        Game w = rooms(3);
         int box = box(w, 5, false, 0);
         int coin = coin(w, 1, 0);
         w.put(coin, 1, box);
@@ -206,7 +206,7 @@ public final class TurnsTest {
         }
         Check.due("an event each", 7, () -> w.daemon(0, 4));
         dueEvents(w, "200 200 200 200 200 200 200");
-        AdventureWorld circle = rooms(1);
+        Game circle = rooms(1);
         int ball = coin(circle, 1, 0);
         circle.connect(0, SOUTH, 0, -1);
         circle.addDaemon(1, ball, 1, false);
@@ -216,7 +216,7 @@ public final class TurnsTest {
     }
 
     private static void moverAndDoors() {
-        AdventureWorld w = rooms(3);
+        Game w = rooms(3);
         int door = w.addThing(4, 3, 0, 1);
         int coin = coin(w, 1, 0);
         w.connect(0, EAST, 1, door);
@@ -244,7 +244,7 @@ public final class TurnsTest {
     }
 
     private static void moverOnlyInRooms() {
-        AdventureWorld w = rooms(2);
+        Game w = rooms(2);
         int box = box(w, 9, true, 0);
         int coin = coin(w, 1, 0);
         int gone = w.addThing(0, 5, 0, 1);
@@ -266,7 +266,7 @@ public final class TurnsTest {
     }
 
     private static void gatherer() {
-        AdventureWorld w = rooms(2);
+        Game w = rooms(2);
         int fixed = coin(w, 1, 0);
         int heavy = coin(w, 6, 0);
         int box = box(w, 5, true, 0);
@@ -297,7 +297,7 @@ public final class TurnsTest {
     }
 
     private static void gathererOnlyIf() {
-        AdventureWorld w = rooms(1);
+        Game w = rooms(1);
         int chest = w.addThing(1, 6, 0, 1);
         int box = box(w, 9, false, 0);
         int coin = coin(w, 1, 0);
@@ -328,7 +328,7 @@ public final class TurnsTest {
     }
 
     private static void switcher() {
-        AdventureWorld w = rooms(1);
+        Game w = rooms(1);
         int lamp = lamp(w, 0, 3, false);
         w.addDaemon(3, lamp, 2, false);
         w.begin(0);
@@ -349,7 +349,7 @@ public final class TurnsTest {
     }
 
     private static void once() {
-        AdventureWorld w = rooms(1);
+        Game w = rooms(1);
         int box = box(w, 0, true, 0);
         w.addDaemon(0, box, 1, true);
         w.addDaemon(0, box, 2, true);
@@ -366,7 +366,7 @@ public final class TurnsTest {
     }
 
     private static void order() {
-        AdventureWorld w = rooms(2);
+        Game w = rooms(2);
         int box = box(w, 9, true, 0);
         int coin = coin(w, 1, 0);
         int far = coin(w, 1, 1);
@@ -387,7 +387,7 @@ public final class TurnsTest {
     }
 
     private static void eventsKept() {
-        AdventureWorld w = rooms(1);
+        Game w = rooms(1);
         int coin = coin(w, 1, 0);
         int lamp = lamp(w, 0, 99, false);
         w.connect(0, NORTH, 0, -1);
@@ -411,8 +411,8 @@ public final class TurnsTest {
         Check.due("as it was", 600 + lamp, () -> w.event(39));
     }
 
-    private static AdventureWorld busy() {
-        AdventureWorld w = rooms(2);
+    private static Game busy() {
+        Game w = rooms(2);
         int box = box(w, 9, true, 0);
         int coin = coin(w, 1, 0);
         int lamp = lamp(w, 0, 30, false);
@@ -427,7 +427,7 @@ public final class TurnsTest {
     }
 
     private static void undo() {
-        AdventureWorld w = busy();
+        Game w = busy();
         Check.refused("undo while not played", w, Check.STATE, w::undo);
         w.begin(0);
         Check.refused("undo at first", w, Check.STATE, w::undo);
@@ -455,7 +455,7 @@ public final class TurnsTest {
     }
 
     private static void undoManyTurns() {
-        AdventureWorld w = busy();
+        Game w = busy();
         w.begin(0);
         for (int turn = 1; turn <= 13; turn++) {
             waits(w, 1);
@@ -481,7 +481,7 @@ public final class TurnsTest {
     }
 
     private static void undoAll() {
-        AdventureWorld w = busy();
+        Game w = busy();
         String[] commands = {"light lamp", "put coin in box", "go north", "drop lamp", "wait", "take all", "south",
             "drop lamp", "take coin", "open box", "close box", "quench lamp", "take all", "drop all", "north"};
         w.begin(0);
@@ -506,7 +506,7 @@ public final class TurnsTest {
     }
 
     private static void replay() {
-        AdventureWorld w = busy();
+        Game w = busy();
         Check.refused("isReplayed while not played", w, Check.STATE, w::isReplayed);
         w.begin(0);
         Check.due("replayed at first", true, w::isReplayed);
@@ -532,7 +532,7 @@ public final class TurnsTest {
     }
 
     private static void replayLong() {
-        AdventureWorld w = busy();
+        Game w = busy();
         w.begin(0);
         String[] texts = {"n. ", "wait. wait. wait. wait. wait. wait. wait. wait. wait. wait. wait. wait. wait",
             "north. south. north. south. take all. drop all. wait. wait. light lamp. wait"};
@@ -544,7 +544,7 @@ public final class TurnsTest {
     }
 
     private static void outerLater() {
-        AdventureWorld w = rooms(3);
+        Game w = rooms(3);
         int box = box(w, 9, true, 0);
         int coin = coin(w, 1, 1);
         int held = w.addThing(0, 5, 0, 1);

@@ -45,13 +45,13 @@ public final class VerbsTest {
         Check.end();
     }
 
-    private static AdventureWorld room(boolean isLight) {
-        AdventureWorld w = new AdventureWorld();
+    private static Game room(boolean isLight) {
+        Game w = new Game();
         w.addRoom(isLight);
         return w;
     }
 
-    private static int add(AdventureWorld w, int kind, int noun, int adjective, int size, int place, int target) {
+    private static int add(Game w, int kind, int noun, int adjective, int size, int place, int target) {
         int thing = w.addThing(kind, noun, adjective, size);
         if (kind == CONTAINER || kind == SUPPORTER) {
             w.setCapacity(thing, 30);
@@ -62,12 +62,12 @@ public final class VerbsTest {
         return thing;
     }
 
-    private static void dueNumber(AdventureWorld w, int thing, int what, int want) {
+    private static void dueNumber(Game w, int thing, int what, int want) {
         Check.due("thing " + thing + ", " + what, want, () -> w.thing(thing, what));
     }
 
     private static void refusal() {
-        AdventureWorld w = room(true);
+        Game w = room(true);
         w.begin(0);
         for (int what : new int[] {-1, 3, Integer.MIN_VALUE, Integer.MAX_VALUE}) {
             Check.refused("refusal " + what, w, Check.ARGUMENT, () -> w.refusal(what));
@@ -91,7 +91,7 @@ public final class VerbsTest {
     }
 
     private static void look() {
-        AdventureWorld w = room(false);
+        Game w = room(false);
         int lamp = add(w, LAMP, LAMP_NOUN, 0, 1, 3, 0);
         w.setFuel(lamp, 5);
         w.begin(0);
@@ -104,7 +104,7 @@ public final class VerbsTest {
     }
 
     private static void go() {
-        AdventureWorld w = room(true);
+        Game w = room(true);
         w.addRoom(false);
         int door = w.addThing(DOOR, DOOR_NOUN, 0, 1);
         int key = add(w, OBJECT, KEY, 0, 1, 3, 0);
@@ -133,7 +133,7 @@ public final class VerbsTest {
     }
 
     private static void take() {
-        AdventureWorld w = room(true);
+        Game w = room(true);
         int door = w.addThing(DOOR, DOOR_NOUN, 0, 1);
         int coin = add(w, OBJECT, COIN, 0, 9, 0, 0);
         int bell = add(w, OBJECT, BELL, 0, 2, 0, 0);
@@ -170,7 +170,7 @@ public final class VerbsTest {
     }
 
     private static void takeAll() {
-        AdventureWorld w = room(true);
+        Game w = room(true);
         w.addRoom(false);
         int coin = add(w, OBJECT, COIN, 0, 9, 0, 0);
         int box = add(w, CONTAINER, BOX, 0, 3, 0, 0);
@@ -196,7 +196,7 @@ public final class VerbsTest {
         dueNumber(w, coin, 9, 3);
         Check.says(w, "drop box. drop coin. north. take all", "done 3, 5 -1 3");
         dueNumber(w, far, 9, 0);
-        AdventureWorld heavy = room(true);
+        Game heavy = room(true);
         add(heavy, OBJECT, COIN, 0, 9, 3, 0);
         add(heavy, OBJECT, COIN, RED, 9, 0, 0);
         int small = add(heavy, OBJECT, COIN, OLD, 3, 0, 0);
@@ -209,7 +209,7 @@ public final class VerbsTest {
     }
 
     private static void drop() {
-        AdventureWorld w = room(true);
+        Game w = room(true);
         int box = add(w, CONTAINER, BOX, 0, 3, 3, 0);
         int coin = add(w, OBJECT, COIN, 0, 1, 1, box);
         int bell = add(w, OBJECT, BELL, 0, 1, 0, 0);
@@ -228,7 +228,7 @@ public final class VerbsTest {
     }
 
     private static void dropAll() {
-        AdventureWorld w = room(false);
+        Game w = room(false);
         w.addRoom(false);
         w.connect(0, 0, 1, -1);
         int box = add(w, CONTAINER, BOX, 0, 3, 3, 0);
@@ -244,7 +244,7 @@ public final class VerbsTest {
     }
 
     private static void put() {
-        AdventureWorld w = room(true);
+        Game w = room(true);
         int box = add(w, CONTAINER, BOX, 0, 3, 0, 0);
         int bell = add(w, SUPPORTER, BELL, 0, 2, 0, 0);
         int coin = add(w, OBJECT, COIN, 0, 4, 0, 0);
@@ -271,7 +271,7 @@ public final class VerbsTest {
     }
 
     private static void putOrder() {
-        AdventureWorld w = room(true);
+        Game w = room(true);
         int door = w.addThing(DOOR, DOOR_NOUN, 0, 1);
         int box = add(w, CONTAINER, BOX, 0, 3, 0, 0);
         int bell = add(w, SUPPORTER, BELL, 0, 2, 0, 0);
@@ -299,7 +299,7 @@ public final class VerbsTest {
         Check.says(w, "put old coin on bell", "done 0, 7 " + bell + " 0");
         Check.says(w, "put old coin in book", "done 0, 6 " + inner + " 0");
         Check.says(w, "open book. put old coin in book. close book. put old coin in book", "done 3, 1 -1 3");
-        AdventureWorld c = room(true);
+        Game c = room(true);
         int glass = add(c, CONTAINER, BOX, 0, 1, 0, 0);
         int ring = add(c, OBJECT, KEY, 0, 1, 1, glass);
         int tray = add(c, SUPPORTER, BELL, 0, 1, 0, 0);
@@ -315,7 +315,7 @@ public final class VerbsTest {
     }
 
     private static void putLoad() {
-        AdventureWorld w = room(true);
+        Game w = room(true);
         int bag = add(w, CONTAINER, BOX, 0, 2, 3, 0);
         int tray = add(w, SUPPORTER, BELL, 0, 1, 1, bag);
         int nine = add(w, OBJECT, COIN, 0, 9, 0, 0);
@@ -344,7 +344,7 @@ public final class VerbsTest {
     }
 
     private static void openAndClose() {
-        AdventureWorld w = room(true);
+        Game w = room(true);
         int door = w.addThing(DOOR, DOOR_NOUN, 0, 1);
         int box = add(w, CONTAINER, BOX, 0, 1, 0, 0);
         int[] others = {add(w, OBJECT, COIN, 0, 1, 0, 0), add(w, SUPPORTER, BELL, 0, 1, 0, 0),
@@ -376,7 +376,7 @@ public final class VerbsTest {
     }
 
     private static void lockAndUnlock() {
-        AdventureWorld w = room(true);
+        Game w = room(true);
         int door = w.addThing(DOOR, DOOR_NOUN, 0, 1);
         int box = add(w, CONTAINER, BOX, 0, 1, 0, 0);
         int key = add(w, OBJECT, KEY, 0, 1, 0, 0);
@@ -411,7 +411,7 @@ public final class VerbsTest {
     }
 
     private static void lightAndQuench() {
-        AdventureWorld w = room(true);
+        Game w = room(true);
         int lamp = add(w, LAMP, LAMP_NOUN, RED, 1, 0, 0);
         int empty = add(w, LAMP, LAMP_NOUN, OLD, 1, 0, 0);
         int coin = add(w, OBJECT, COIN, 0, 1, 0, 0);
@@ -433,7 +433,7 @@ public final class VerbsTest {
     }
 
     private static void meaning() {
-        AdventureWorld w = room(true);
+        Game w = room(true);
         w.addRoom(true);
         add(w, CONTAINER, BOX, RED, 1, 0, 0);
         add(w, CONTAINER, BOX, OLD, 1, 0, 0);
@@ -455,7 +455,7 @@ public final class VerbsTest {
     }
 
     private static void meaningForVerbs() {
-        AdventureWorld w = room(true);
+        Game w = room(true);
         int carried = add(w, OBJECT, COIN, RED, 1, 3, 0);
         int there = add(w, OBJECT, COIN, OLD, 1, 0, 0);
         int box = add(w, CONTAINER, BOX, 0, 1, 3, 0);
@@ -484,7 +484,7 @@ public final class VerbsTest {
     }
 
     private static void firstReasons() {
-        AdventureWorld w = room(true);
+        Game w = room(true);
         int glass = add(w, CONTAINER, BOX, 0, 1, 0, 0);
         int coin = add(w, OBJECT, COIN, RED, 1, 1, glass);
         int lamp = add(w, LAMP, LAMP_NOUN, 0, 1, 1, glass);
@@ -516,7 +516,7 @@ public final class VerbsTest {
     }
 
     private static void oneAfterTheOther() {
-        AdventureWorld w = room(true);
+        Game w = room(true);
         int box = add(w, CONTAINER, BOX, 0, 1, 0, 0);
         int coin = add(w, OBJECT, COIN, 0, 1, 1, box);
         w.begin(0);
